@@ -1,0 +1,75 @@
+/** Counts answers that are not the due ones, prints each, and ends the test with exit code 1 if there was one. */
+final class Check {
+    interface Call {
+        void run();
+    }
+
+    private int checked = 0;
+    private int wrong = 0;
+
+    void is(long due, long got, String what) {
+        note(due == got, what + " answered " + got + ", due is " + due);
+    }
+
+    void is(boolean due, boolean got, String what) {
+        note(due == got, what + " answered " + got + ", due is " + due);
+    }
+
+    void fails(Class<? extends RuntimeException> due, Call call, String what) {
+        String got = "no exception";
+        try {
+            call.run();
+        } catch (RuntimeException e) {
+            got = e.getClass().getSimpleName();
+        }
+        note(got.equals(due.getSimpleName()), what + " gave " + got + ", due is " + due.getSimpleName());
+    }
+
+    /** A label: serial, page, USED, NEXT, BEFORE. */
+    void label(LabelledVolume v, int sector, int... due) {
+        for (int what = 0; what < due.length; what++) {
+            is(due[what], v.label(sector, what), "label(" + sector + ", " + what + ")");
+        }
+    }
+
+    /** The first bytes of a sector's data. */
+    void data(LabelledVolume v, int sector, int... due) {
+        for (int i = 0; i < due.length; i++) {
+            is(due[i], v.data(sector, i), "data(" + sector + ", " + i + ")");
+        }
+    }
+
+    void misses(LabelledVolume v, int due, String when) {
+        is(due, v.state(0), "misses " + when);
+    }
+
+    void written(LabelledVolume v, int due, String when) {
+        is(due, v.state(1), "sectors written " + when);
+    }
+
+    void note(boolean right, String message) {
+        checked++;
+        if (!right) {
+            wrong++;
+            System.out.println(place() + ": " + message);
+        }
+    }
+
+    /** The lines of the test that led here. */
+    private static String place() {
+        StringBuilder lines = new StringBuilder();
+        for (StackTraceElement e : new Throwable().getStackTrace()) {
+            if (!e.getClassName().startsWith("Check") && !e.getMethodName().equals("main")) {
+                lines.append(lines.length() == 0 ? e.getFileName() + ":" : ", ").append(e.getLineNumber());
+            }
+        }
+        return lines.length() == 0 ? "main" : lines.toString();
+    }
+
+    void end() {
+        System.out.println(checked + " checked, " + wrong + " wrong");
+        if (wrong > 0 || checked == 0) {
+            System.exit(1);
+        }
+    }
+}

@@ -1,0 +1,168 @@
+import java.util.NoSuchElementException;
+
+/** Promise 6: shorten, with SHORTENING. */
+public final class ShortenTest {
+    private static final Check c = new Check();
+
+    public static void main(String[] args) {
+        withinThePage();
+        toAPageBoundary();
+        overPages();
+        toNothing();
+        orderOfWriting();
+        linksAreHints();
+        wrongInputs();
+        broken();
+        mapOnlyWhenPagesBecomeFree();
+        leaderThatIsElsewhere();
+        c.end();
+    }
+
+    private static void withinThePage() {
+        LabelledVolume v = Volumes.withFile(20);
+        int before = v.state(1);
+        v.shorten(3, 20);
+        c.written(v, before, "by shortening to the length");
+        v.shorten(3, 17);
+        c.written(v, before + 1, "by shortening within the last page");
+        c.label(v, 7, 3, 3, 1, -1, 6);
+        c.data(v, 7, 17, 0, 0, 0, 0, 0, 0, 0);
+        c.is(17, v.length(3), "length");
+    }
+
+    private static void toAPageBoundary() {
+        LabelledVolume v = Volumes.withFile(20);
+        int before = v.state(1);
+        v.shorten(3, 16);
+        c.written(v, before + 4, "freed page, last page, leader, map");
+        c.label(v, 7, 0, 0, 0, -1, -1);
+        c.data(v, 7, 0, 0, 0, 0, 0, 0, 0, 0);
+        c.label(v, 6, 3, 2, 8, -1, 5);
+        c.data(v, 6, 9, 10, 11, 12, 13, 14, 15, 16);
+        c.is(6, v.data(3, 3), "hint of the leader");
+        c.is(128, v.data(2, 0), "map");
+        c.is(16, v.length(3), "length");
+    }
+
+    private static void overPages() {
+        LabelledVolume v = Volumes.withFile(20);
+        int before = v.state(1);
+        v.shorten(3, 3);
+        c.written(v, before + 5, "two freed pages, last page, leader, map");
+        c.label(v, 5, 3, 1, 3, -1, 3);
+        c.data(v, 5, 1, 2, 3, 0, 0, 0, 0, 0);
+        c.is(0, v.label(6, 0), "page 2 is free");
+        c.is(0, v.label(7, 0), "page 3 is free");
+        c.is(34, v.state(2), "free sectors");
+        c.is(192, v.data(2, 0), "map");
+        c.misses(v, 0, "with right hints");
+    }
+
+    private static void toNothing() {
+        LabelledVolume v = Volumes.withFile(9);
+        int before = v.state(1);
+        v.shorten(3, 0);
+        c.written(v, before + 4, "two freed pages, leader, map");
+        c.label(v, 3, 3, 0, 8, -1, -1);
+        c.data(v, 3, 0, 1, 0, 3);
+        c.is(0, v.length(3), "length");
+        v.shorten(3, 0);
+        c.written(v, before + 4, "nothing more");
+    }
+
+    /** The last page first, then the page that is last then, the leader, the map. */
+    private static void orderOfWriting() {
+        for (int charge = 0; charge <= 5; charge++) {
+            LabelledVolume v = Volumes.withFile(20);
+            v.charge(charge);
+            if (charge < 5) {
+                c.fails(UnsupportedOperationException.class, () -> v.shorten(3, 5), "shorten, charge " + charge);
+            } else {
+                v.shorten(3, 5);
+            }
+            c.is(charge > 0 ? 0 : 3, v.label(7, 0), "serial of page 3, charge " + charge);
+            c.is(charge > 1 ? 0 : 3, v.label(6, 0), "serial of page 2, charge " + charge);
+            c.is(charge > 2 ? 5 : 8, v.label(5, 2), "USED of page 1, charge " + charge);
+            c.is(charge > 3 ? 5 : 7, v.data(3, 3), "hint of the leader, charge " + charge);
+            c.is(charge > 4 ? 192 : 0, v.data(2, 0), "map, charge " + charge);
+        }
+    }
+
+    private static void linksAreHints() {
+        LabelledVolume v = Volumes.withFile(20);
+        v.ghost(6, 30);
+        v.scratch(6);
+        v.shorten(3, 16);
+        c.misses(v, 1, "of page 2 by BEFORE");
+        c.label(v, 30, 3, 2, 8, -1, 5);
+        c.is(30, v.data(3, 3), "hint of the leader");
+        v.spoil(2, 3, 0);
+        v.shorten(3, 8);
+        c.misses(v, 1, "of page 2 alone");
+        c.is(0, v.label(30, 0), "the ghost is free");
+        c.is(64, v.data(2, 3), "the ghost's bit is set");
+    }
+
+    private static void wrongInputs() {
+        LabelledVolume v = Volumes.withFile(9);
+        v.create(1, 2, true);
+        String before = Volumes.picture(v);
+        int[] noFile = {-1, 0, 5, 61};
+        for (int file : noFile) {
+            c.fails(NoSuchElementException.class, () -> v.shorten(file, 0), "shorten no file " + file);
+        }
+        int[] noPlainFile = {1, 2, 4};
+        for (int file : noPlainFile) {
+            c.fails(IllegalArgumentException.class, () -> v.shorten(file, -1), "shorten file " + file);
+        }
+        int[] noLength = {-1, 10, Integer.MAX_VALUE, Integer.MIN_VALUE};
+        for (int n : noLength) {
+            c.fails(IndexOutOfBoundsException.class, () -> v.shorten(3, n), "shorten to " + n);
+        }
+        c.is(true, before.equals(Volumes.picture(v)), "nothing is changed by what throws");
+        v.charge(0);
+        v.shorten(3, 9);
+        c.is(1, v.state(4), "power, as nothing was written");
+        c.fails(UnsupportedOperationException.class, () -> v.shorten(3, 8), "shorten with charge 0");
+        c.fails(UnsupportedOperationException.class, () -> v.shorten(99, 0), "shorten without power");
+    }
+
+    private static void broken() {
+        LabelledVolume v = Volumes.withFile(20);
+        v.scratch(6);
+        String before = Volumes.picture(v);
+        c.fails(IllegalStateException.class, () -> v.shorten(3, 16), "shorten to a page that is not there");
+        c.is(true, before.equals(Volumes.picture(v)), "nothing is changed");
+        v.shorten(3, 18);
+        c.is(18, v.length(3), "length within the last page");
+        v.spoil(3, 3, 99);
+        c.fails(IllegalStateException.class, () -> v.shorten(3, -1), "broken goes before a wrong length");
+    }
+
+    private static void mapOnlyWhenPagesBecomeFree() {
+        LabelledVolume v = Volumes.withFile(20);
+        v.scratch(2);
+        v.shorten(3, 17);
+        c.misses(v, 0, "as the map's page is not looked for");
+        int before = v.state(1);
+        v.shorten(3, 16);
+        c.misses(v, 1, "of the map's page");
+        c.written(v, before + 3, "without the map");
+
+        LabelledVolume w = Volumes.withFile(20);
+        w.spoil(2, 0, 128);
+        int written = w.state(1);
+        w.shorten(3, 16);
+        c.written(w, written + 3, "without the map, which does not change");
+    }
+
+    private static void leaderThatIsElsewhere() {
+        LabelledVolume v = Volumes.withFile(8);
+        v.ghost(3, 30);
+        v.scratch(3);
+        v.shorten(3, 0);
+        c.misses(v, 2, "of the remembered leader, and of it by BEFORE");
+        c.label(v, 30, 3, 0, 8, -1, -1);
+        c.is(30, v.data(30, 3), "hint of the leader to itself");
+    }
+}
