@@ -131,17 +131,23 @@ public final class AdoptTest {
         c.is(4, v.open(1, 2), "open of the adopted file by its own name");
     }
 
-    /** Files 3 (in directory 4), 4 and 5 are not reached: 4 is the lowest that is in no directory. */
-    private static void notListedGoesFirst() {
+    /** Files 3, 4 and 5 without entries in the root; directory 4 has one for file 3, under a name. */
+    private static LabelledVolume looseDirectoryWithEntry(int name) {
         LabelledVolume v = new LabelledVolume();
         v.create(1, 1, false);
         v.create(1, 2, true);
         v.create(4, 3, false);
         c.data(v, 7, 0, 3, 5, 6);
-        v.spoil(7, 1, 1);
+        v.spoil(7, 1, name);
         v.spoil(7, 2, 3);
         v.spoil(4, 2, 0);
         v.spoil(4, 6, 0);
+        return v;
+    }
+
+    /** Of the files that are not reached 4 is the lowest that is in no directory. */
+    private static void notListedGoesFirst() {
+        LabelledVolume v = looseDirectoryWithEntry(1);
         adopts(v, 5, 2);
         c.is(4, v.entry(1, 0, 1), "serial in the root's first entry");
         c.is(5, v.entry(1, 1, 1), "serial in the root's second entry");
@@ -149,19 +155,13 @@ public final class AdoptTest {
         c.is(3, v.entry(4, 0, 2), "hint put right in the directory");
     }
 
-    /** The entry for file 3 in directory 4 has another name than its leader: it does not list it. */
+    /** An entry with another name than the leader's does not list the file. */
     private static void listedUnderAnotherName() {
-        LabelledVolume v = new LabelledVolume();
-        v.create(1, 1, false);
-        v.create(1, 2, true);
-        v.create(4, 3, false);
-        v.spoil(7, 2, 3);
-        v.spoil(4, 2, 0);
-        v.spoil(4, 6, 0);
+        LabelledVolume v = looseDirectoryWithEntry(3);
         adopts(v, 5, 3);
-        c.is(3, v.entry(1, 0, 1), "serial in the root's first entry");
-        c.is(4, v.entry(1, 1, 1), "serial in the root's second entry");
-        c.is(5, v.entry(1, 2, 1), "serial in the root's third entry");
+        for (int k = 0; k < 3; k++) {
+            c.is(k + 3, v.entry(1, k, 1), "serial in the root's entry " + k);
+        }
         c.is(0, v.entry(4, 0, 1), "a hole in the directory");
     }
 

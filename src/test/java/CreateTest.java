@@ -21,6 +21,7 @@ public final class CreateTest {
         shortPageOfAFileMadeDirectory();
         rootIsADirectoryWhateverItsKind();
         remembersTheNewLeader();
+        withoutPower();
         c.end();
     }
 
@@ -266,11 +267,23 @@ public final class CreateTest {
     }
 
     private static void remembersTheNewLeader() {
-        LabelledVolume v = Volumes.withFile(0);
+        LabelledVolume v = new LabelledVolume();
+        v.create(1, 1, false);
         v.scratch(3);
         c.fails(NoSuchElementException.class, () -> v.length(3), "length without a leader");
         c.misses(v, 1, "of the remembered leader");
         c.fails(NoSuchElementException.class, () -> v.length(3), "length again");
         c.misses(v, 1, "as nothing is remembered then");
+    }
+
+    private static void withoutPower() {
+        LabelledVolume v = new LabelledVolume();
+        v.charge(0);
+        c.fails(UnsupportedOperationException.class, () -> v.create(1, 1, false), "create with charge 0");
+        v.spoil(0, 3, 99);
+        c.fails(UnsupportedOperationException.class, () -> v.create(99, 0, false), "create without power");
+        c.misses(v, 0, "as nothing is looked at without power");
+        c.is(2, v.scavenge(), "scavenge");
+        c.is(3, v.create(1, 1, false), "create with power again");
     }
 }

@@ -6,6 +6,7 @@ public final class RemoveTest {
 
     public static void main(String[] args) {
         ordinary();
+        entryBecomesAHole();
         orderOfWriting();
         directories();
         wrongInputs();
@@ -34,6 +35,19 @@ public final class RemoveTest {
         c.fails(NoSuchElementException.class, () -> v.open(1, 1), "open of a removed file");
         c.fails(NoSuchElementException.class, () -> v.remove(1, 1), "remove again");
         c.misses(v, 0, "with right hints");
+    }
+
+    private static void entryBecomesAHole() {
+        LabelledVolume v = new LabelledVolume();
+        v.create(1, 1000, false);
+        v.create(1, 2000, false);
+        c.data(v, 4, 3, 232, 3, 3, 7, 208, 4, 5);
+        c.is(1, v.remove(1, 1000), "remove of the first");
+        c.data(v, 4, 0, 0, 0, 0, 7, 208, 4, 5);
+        c.is(1, v.remove(1, 2000), "remove of the second");
+        c.data(v, 4, 0, 0, 0, 0, 0, 0, 0, 0);
+        c.label(v, 4, 1, 1, 8, -1, 0);
+        c.is(8, v.length(1), "length of a root of holes");
     }
 
     /** Entry, the pages from the last one on, leader, map. */

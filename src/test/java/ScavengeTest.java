@@ -23,6 +23,8 @@ public final class ScavengeTest {
         entriesThatDoNotCount();
         entriesForOneFileTwice();
         directoriesAreWalkedAtOnce();
+        deepDirectories();
+        fiveBytesOfTheMap();
         c.end();
     }
 
@@ -319,5 +321,34 @@ public final class ScavengeTest {
         c.is(5, v.open(3, 5), "open in the directory");
         c.is(4, v.open(1, 2), "open of the file that lost its entry");
         c.fails(NoSuchElementException.class, () -> v.open(1, 5), "open in the root");
+    }
+
+    /** As many directories, each in the one before, as the volume can hold. */
+    private static void deepDirectories() {
+        LabelledVolume v = new LabelledVolume();
+        int dir = 1;
+        while (v.state(2) >= 2) {
+            dir = v.create(dir, 5, true);
+        }
+        c.is(20, dir, "the deepest directory");
+        int page = v.data(v.data(0, 3), 3);
+        for (int sector = 3; sector < 40; sector++) {
+            if (v.label(sector, 1) == 1) {
+                v.spoil(sector, 3, 255);
+            }
+        }
+        scavenge(v, 20, 0, 0, 0, 18);
+        c.is(page, v.data(v.data(0, 3), 3), "hint in the root's entry");
+        for (int d = 3; d < dir; d++) {
+            c.is(d + 1, v.open(d, 5), "open in directory " + d);
+        }
+        c.misses(v, 0, "with all put right");
+    }
+
+    private static void fiveBytesOfTheMap() {
+        LabelledVolume v = new LabelledVolume();
+        v.spoil(2, 5, 9);
+        scavenge(v, 2, 0, 0, 0, 0);
+        c.is(9, v.data(2, 5), "the byte behind the map's five");
     }
 }

@@ -14,6 +14,7 @@ public final class ShortenTest {
         wrongInputs();
         broken();
         mapOnlyWhenPagesBecomeFree();
+        mapOverSeveralCalls();
         leaderThatIsElsewhere();
         c.end();
     }
@@ -154,6 +155,20 @@ public final class ShortenTest {
         int written = w.state(1);
         w.shorten(3, 16);
         c.written(w, written + 3, "without the map, which does not change");
+    }
+
+    private static void mapOverSeveralCalls() {
+        LabelledVolume v = Volumes.withFile(16);
+        v.spoil(2, 0, 129);
+        v.shorten(3, 0);
+        c.is(225, v.data(2, 0), "map with two bits more, and a wrong one that is left");
+        v.write(3, 0, 1);
+        c.is(192, v.data(2, 0), "map when one of them is taken, and the wrong one is missed");
+        c.misses(v, 1, "of the wrong bit");
+        v.shorten(3, 0);
+        c.is(224, v.data(2, 0), "map when it is free again");
+        Volumes.append(v, 3, 9);
+        c.is(128, v.data(2, 0), "map when both are taken");
     }
 
     private static void leaderThatIsElsewhere() {
