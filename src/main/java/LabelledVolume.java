@@ -1067,6 +1067,8 @@ public final class LabelledVolume {
             makeLeaderAtAnyCost(ROOT, DIRECTORY);
             makeLeaderAtAnyCost(MAP, PLAIN);
             makeMapPage();
+            putNameAndKindRight(ROOT, DIRECTORY);
+            putNameAndKindRight(MAP, PLAIN);
         }
 
         private boolean makeLeader(int serial, int name, int kind) {
@@ -1093,6 +1095,13 @@ public final class LabelledVolume {
             if (leader != NONE && sector != NONE && disk.search(MAP, 1) == NONE) {
                 disk.makePageBehind(leader, sector, MAP_BYTES);
             }
+        }
+
+        /** A leader that need not be made may have been spoilt; a file that is not there has none to change. */
+        private void putNameAndKindRight(int serial, int kind) {
+            int leader = disk.search(serial, 0);
+            disk.setName(leader, 0, 0);
+            disk.setByte(leader, LEADER_KIND, kind);
         }
 
         /** Where entry k of a directory is, as sector * BYTES + offset; NONE if it has no such entry. */

@@ -168,6 +168,9 @@ public final class RandomRunsTest {
             c.is(8, v.label(sector, 2), "USED of a page that is not the last");
         }
         c.is(page == 0, v.label(sector, 4) == -1, "the leader alone has no page ahead");
+        if (serial <= 2 && page == 0) {
+            c.data(v, sector, 0, 0, serial == 1 ? 1 : 0);
+        }
         if (next == -1) {
             int length = page == 0 ? 0 : 8 * (page - 1) + v.label(sector, 2);
             c.is(length, v.length(serial), "length of file " + serial);

@@ -25,6 +25,10 @@ public final class ScavengeTest {
         directoriesAreWalkedAtOnce();
         deepDirectories();
         fiveBytesOfTheMap();
+        spoiltNameAndKindOfTheMap();
+        spoiltNameAndKindOfTheRoot();
+        spoiltLeaderThatIsAGhost();
+        spoiltLeaderOfAPlainFile();
         c.end();
     }
 
@@ -350,5 +354,71 @@ public final class ScavengeTest {
         v.spoil(2, 5, 9);
         scavenge(v, 2, 0, 0, 0, 0);
         c.is(9, v.data(2, 5), "the byte behind the map's five");
+    }
+
+    /** Each of the three bytes alone, then all of them; the data behind them is not the scavenger's. */
+    private static void spoiltNameAndKindOfTheMap() {
+        for (int i = 0; i < 3; i++) {
+            LabelledVolume v = new LabelledVolume();
+            v.spoil(1, i, 1);
+            scavenge(v, 2, 0, 0, 0, 1);
+            c.data(v, 1, 0, 0, 0, 2, 0, 0, 0, 0);
+        }
+        LabelledVolume w = Volumes.withFile(0);
+        for (int i = 0; i < 8; i++) {
+            w.spoil(1, i, 200 + i);
+        }
+        scavenge(w, 3, 0, 0, 0, 1);
+        c.data(w, 1, 0, 0, 0, 2, 204, 205, 206, 207);
+        c.label(w, 1, 2, 0, 8, 2, -1);
+
+        LabelledVolume full = Volumes.full();
+        full.scratch(2);
+        full.spoil(1, 2, 1);
+        scavenge(full, 3, 0, 0, 0, 1);
+        c.data(full, 1, 0, 0, 0, 1);
+    }
+
+    private static void spoiltNameAndKindOfTheRoot() {
+        int[] spoilt = {7, 7, 0};
+        for (int i = 0; i < 3; i++) {
+            LabelledVolume v = new LabelledVolume();
+            v.spoil(0, i, spoilt[i]);
+            scavenge(v, 2, 0, 0, 0, 1);
+            c.data(v, 0, 0, 0, 1, 0, 0, 0, 0, 0);
+        }
+        LabelledVolume w = Volumes.withFile(0);
+        for (int i = 0; i < 8; i++) {
+            w.spoil(0, i, 200 + i);
+        }
+        scavenge(w, 3, 0, 0, 0, 1);
+        c.data(w, 0, 0, 0, 1, 4, 204, 205, 206, 207);
+        c.is(3, w.open(1, 1), "open in the root");
+    }
+
+    /** The sector that stands in for an unreadable leader has what was spoilt in it put right. */
+    private static void spoiltLeaderThatIsAGhost() {
+        LabelledVolume v = new LabelledVolume();
+        v.ghost(0, 20);
+        v.ghost(1, 21);
+        v.scratch(0);
+        v.scratch(1);
+        v.spoil(20, 1, 9);
+        v.spoil(20, 2, 9);
+        v.spoil(21, 0, 9);
+        v.spoil(21, 2, 1);
+        scavenge(v, 2, 0, 0, 0, 3);
+        c.data(v, 20, 0, 0, 1, 20);
+        c.data(v, 21, 0, 0, 0, 2);
+    }
+
+    /** From file 3 on nothing says what the KIND was: it is left, and the name is what counts. */
+    private static void spoiltLeaderOfAPlainFile() {
+        LabelledVolume v = Volumes.withFile(0);
+        v.spoil(3, 1, 9);
+        v.spoil(3, 2, 7);
+        scavenge(v, 3, 0, 0, 1, 1);
+        c.data(v, 3, 0, 9, 7, 3);
+        c.is(3, v.open(1, 9), "open by the name in the leader");
     }
 }
