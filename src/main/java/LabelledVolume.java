@@ -1064,11 +1064,9 @@ public final class LabelledVolume {
                     losePages(serial);
                 }
             }
-            makeLeaderAtAnyCost(ROOT, DIRECTORY);
-            makeLeaderAtAnyCost(MAP, PLAIN);
+            provideLeader(ROOT, DIRECTORY);
+            provideLeader(MAP, PLAIN);
             makeMapPage();
-            putNameAndKindRight(ROOT, DIRECTORY);
-            putNameAndKindRight(MAP, PLAIN);
         }
 
         private boolean makeLeader(int serial, int name, int kind) {
@@ -1081,12 +1079,15 @@ public final class LabelledVolume {
             return true;
         }
 
-        private void makeLeaderAtAnyCost(int serial, int kind) {
-            if (isThere(serial) || makeLeader(serial, 0, kind)) {
-                return;
+        /** One that was there may have been spoilt, so that it gets the name 0 and its KIND like one that is made. */
+        private void provideLeader(int serial, int kind) {
+            if (!isThere(serial) && !makeLeader(serial, 0, kind)) {
+                losePages(serial);
+                makeLeader(serial, 0, kind);
             }
-            losePages(serial);
-            makeLeader(serial, 0, kind);
+            int leader = disk.search(serial, 0);
+            disk.setName(leader, 0, 0);
+            disk.setByte(leader, LEADER_KIND, kind);
         }
 
         private void makeMapPage() {
@@ -1095,13 +1096,6 @@ public final class LabelledVolume {
             if (leader != NONE && sector != NONE && disk.search(MAP, 1) == NONE) {
                 disk.makePageBehind(leader, sector, MAP_BYTES);
             }
-        }
-
-        /** A leader that need not be made may have been spoilt; a file that is not there has none to change. */
-        private void putNameAndKindRight(int serial, int kind) {
-            int leader = disk.search(serial, 0);
-            disk.setName(leader, 0, 0);
-            disk.setByte(leader, LEADER_KIND, kind);
         }
 
         /** Where entry k of a directory is, as sector * BYTES + offset; NONE if it has no such entry. */

@@ -1,4 +1,4 @@
-/** Promise 11: charge, with POWER. */
+/** Promise 11: charge. What POWER means for each call is in PowerTest. */
 public final class ChargeTest {
     private static final Check c = new Check();
 
@@ -6,10 +6,10 @@ public final class ChargeTest {
         countsSectors();
         isSetAnew();
         wrongInputs();
-        callsThatNeedNoPower();
         c.end();
     }
 
+    /** "n more sectors are written." */
     private static void countsSectors() {
         LabelledVolume v = Volumes.withFile(1);
         v.charge(3);
@@ -43,6 +43,7 @@ public final class ChargeTest {
         c.fails(UnsupportedOperationException.class, () -> v.write(3, 0, 0), "the hundredth write");
     }
 
+    /** "IllegalArgumentException: n is not 0 .. 99." */
     private static void wrongInputs() {
         LabelledVolume v = new LabelledVolume();
         v.charge(4);
@@ -52,20 +53,5 @@ public final class ChargeTest {
         }
         c.is(3, v.create(1, 1, false), "create with the charge as it was");
         c.fails(UnsupportedOperationException.class, () -> v.write(3, 0, 0), "write beyond it");
-    }
-
-    private static void callsThatNeedNoPower() {
-        LabelledVolume v = Volumes.withFile(1);
-        v.charge(0);
-        c.fails(UnsupportedOperationException.class, () -> v.write(3, 0, 0), "write beyond the charge");
-        c.is(3, v.label(3, 0), "label");
-        c.is(1, v.data(3, 1), "data");
-        c.is(0, v.report(0), "report");
-        c.is(true, v.spoil(5, 0, 9), "spoil");
-        c.is(true, v.ghost(5, 30), "ghost");
-        c.is(true, v.scratch(30), "scratch");
-        c.is(1, v.state(3), "state");
-        c.is(3, v.scavenge(), "scavenge");
-        c.is(9, v.read(3, 0), "read with power again");
     }
 }

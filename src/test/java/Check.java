@@ -1,3 +1,6 @@
+import java.util.function.Consumer;
+import java.util.function.Supplier;
+
 /** Counts answers that are not the due ones, prints each, and ends the test with exit code 1 if there was one. */
 final class Check {
     interface Call {
@@ -23,6 +26,24 @@ final class Check {
             got = e.getClass().getSimpleName();
         }
         note(got.equals(due.getSimpleName()), what + " gave " + got + ", due is " + due.getSimpleName());
+    }
+
+    /**
+     * A call that throws something else than for want of power, on a new volume, as two pictures of one take some
+     * 300 of the 512 calls that an object promises: it changes nothing but the misses, which are counted.
+     */
+    void refused(Supplier<LabelledVolume> maker, int misses, Class<? extends RuntimeException> due,
+            Consumer<LabelledVolume> call, String what) {
+        LabelledVolume v = maker.get();
+        String before = Volumes.picture(v);
+        int missed = v.state(0);
+        int written = v.state(1);
+        int power = v.state(4);
+        fails(due, () -> call.accept(v), what);
+        is(missed + misses, v.state(0), "misses behind " + what);
+        is(written, v.state(1), "sectors written behind " + what);
+        is(power, v.state(4), "power behind " + what);
+        note(before.equals(Volumes.picture(v)), what + " changed a sector");
     }
 
     /** A label: serial, page, USED, NEXT, BEFORE. */

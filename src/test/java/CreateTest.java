@@ -14,11 +14,13 @@ public final class CreateTest {
         wrongInputs();
         brokenDirectory();
         lowestSerial();
+        serialsFromThreeOn();
         mapIsOnlyAHint();
         withoutAMap();
         fullVolume();
         oneFreeSector();
-        shortPageOfAFileMadeDirectory();
+        roomInTheEnd();
+        firstHoleOfSeveral();
         rootIsADirectoryWhateverItsKind();
         remembersTheNewLeader();
         withoutPower();
@@ -162,6 +164,19 @@ public final class CreateTest {
         c.misses(v, 1, "at the broken place");
     }
 
+    /** "The serial is the lowest from 3 on": also when no label says 1 or 2. */
+    private static void serialsFromThreeOn() {
+        LabelledVolume v = new LabelledVolume();
+        v.scratch(1);
+        v.scratch(2);
+        c.is(3, v.create(1, 1, true), "serial without a map");
+        // The root is in sector 0 and has its page in 4.
+        v.scratch(0);
+        v.scratch(4);
+        c.is(4, v.create(3, 1, false), "serial without a root and a map");
+    }
+
+    /** ".. that no label says". */
     private static void lowestSerial() {
         LabelledVolume v = new LabelledVolume();
         v.create(1, 1, false);
@@ -227,10 +242,12 @@ public final class CreateTest {
         LabelledVolume v = Volumes.full();
         c.is(0, v.state(2), "free sectors");
         v.spoil(2, 4, 3);
-        String before = Volumes.picture(v);
+        int written = v.state(1);
         c.fails(IllegalStateException.class, () -> v.create(1, 2, false), "create on a full volume");
         c.misses(v, 2, "of the spoilt bits");
-        c.is(true, before.equals(Volumes.picture(v)), "a full volume is left as it was");
+        c.written(v, written, "on a full volume");
+        c.data(v, 2, 0, 0, 0, 0, 3);
+        c.label(v, 4, 1, 1, 4, -1, 0);
     }
 
     private static void oneFreeSector() {
@@ -245,19 +262,66 @@ public final class CreateTest {
         c.is(1, v.state(2), "free sectors");
     }
 
-    private static void shortPageOfAFileMadeDirectory() {
-        LabelledVolume v = Volumes.withFile(3);
-        v.spoil(3, 2, 1);
-        c.is(4, v.create(3, 5, false), "create behind three bytes");
-        c.label(v, 5, 3, 1, 8, -1, 3);
-        c.data(v, 5, 1, 2, 3, 0, 0, 5, 4, 6);
+    /**
+     * "else to bytes 4 .. 7 of the END (USED 8 then), if that is not the leader and has at most 4 USED, else into a
+     * new page (USED 4)": a file of each length is made a directory, so that the END has each USED.
+     */
+    private static void roomInTheEnd() {
+        for (int used = 0; used <= 8; used++) {
+            LabelledVolume v = Volumes.withFile(used);
+            v.spoil(3, 2, 1);
+            int free = v.state(2);
+            int leader = used == 0 ? 5 : 6;
+            c.is(4, v.create(3, 500, false), "create behind " + used + " bytes");
+            c.label(v, leader, 4, 0, 8, -1, -1);
+            if (used >= 1 && used <= 4) {
+                c.is(free - 1, v.state(2), "free sectors, with an entry behind " + used + " bytes");
+                isInTheEnd(v, used);
+            } else {
+                c.is(free - 2, v.state(2), "free sectors, with an entry behind " + used + " bytes");
+                isInANewPage(v, used, leader);
+            }
+        }
+    }
 
-        LabelledVolume w = Volumes.withFile(6);
-        w.spoil(3, 2, 1);
-        c.is(4, w.create(3, 5, false), "create behind six bytes");
-        c.label(w, 5, 3, 1, 6, 7, 3);
-        c.label(w, 7, 3, 2, 4, -1, 5);
-        c.data(w, 7, 0, 5, 4, 6, 0, 0, 0, 0);
+    private static void isInTheEnd(LabelledVolume v, int used) {
+        c.label(v, 5, 3, 1, 8, -1, 3);
+        int[] entry = {1, 244, 4, 6};
+        for (int i = 0; i < 4; i++) {
+            c.is(i < used ? i + 1 : 0, v.data(5, i), "byte " + i + " of the END");
+            c.is(entry[i], v.data(5, 4 + i), "byte " + i + " of the entry");
+        }
+        c.is(5, v.data(3, 3), "hint of the directory's leader");
+    }
+
+    private static void isInANewPage(LabelledVolume v, int used, int leader) {
+        int end = used == 0 ? 3 : 5;
+        c.label(v, leader + 1, 3, used == 0 ? 1 : 2, 4, -1, end);
+        c.data(v, leader + 1, 1, 244, 4, leader, 0, 0, 0, 0);
+        c.is(leader + 1, v.label(end, 3), "NEXT of the END");
+        c.is(used == 0 ? 8 : used, v.label(end, 2), "USED of the END");
+        c.is(leader + 1, v.data(3, 3), "hint of the directory's leader");
+    }
+
+    /** "An entry comes into the first hole (its page)": in whichever page that is. */
+    private static void firstHoleOfSeveral() {
+        for (int hole = 0; hole < 5; hole++) {
+            LabelledVolume v = Volumes.withFiles(5);
+            for (int name = hole + 1; name <= 5; name++) {
+                v.remove(1, name);
+            }
+            int written = v.state(1);
+            int free = v.state(2);
+            c.is(hole + 3, v.create(1, 100 + hole, false), "create with the first hole " + hole);
+            c.is(100 + hole, v.entry(1, hole, 0), "name in the first hole " + hole);
+            c.is(hole + 3, v.entry(1, hole, 1), "serial in the first hole " + hole);
+            if (hole < 4) {
+                c.is(0, v.entry(1, hole + 1, 1), "serial in the second hole");
+            }
+            c.written(v, written + 3, "leader, entry, map");
+            c.is(free - 1, v.state(2), "free sectors");
+            c.is(20, v.length(1), "length of the root");
+        }
     }
 
     private static void rootIsADirectoryWhateverItsKind() {

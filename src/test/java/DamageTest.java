@@ -4,6 +4,8 @@ public final class DamageTest {
 
     public static void main(String[] args) {
         spoil();
+        spoilTakesEightBits();
+        spoilOfEachByte();
         scratch();
         ghost();
         c.end();
@@ -28,6 +30,34 @@ public final class DamageTest {
         c.is(0, v.data(6, 0), "data of a free sector");
         v.scratch(5);
         c.is(false, v.spoil(5, 0, 1), "an unreadable sector");
+    }
+
+    /** "Byte i of a sector's data becomes the lowest eight bits of v". */
+    private static void spoilTakesEightBits() {
+        int[][] values = {{0, 0}, {127, 127}, {128, 128}, {255, 255}, {256, 0}, {257, 1}, {-1, 255}, {-128, 128},
+            {-256, 0}, {Integer.MAX_VALUE, 255}, {Integer.MIN_VALUE, 0}};
+        LabelledVolume v = Volumes.withFile(3);
+        for (int[] value : values) {
+            c.is(true, v.spoil(5, 1, value[0]), "spoil with " + value[0]);
+            c.data(v, 5, 1, value[1], 3, 0, 0, 0, 0, 0);
+            c.is(value[1], v.read(3, 1), "read of what was spoilt with " + value[0]);
+        }
+    }
+
+    /** "whatever its label says": of a leader, a page, the root and the map, and behind what is USED. */
+    private static void spoilOfEachByte() {
+        for (int sector = 0; sector < 6; sector++) {
+            LabelledVolume v = Volumes.withFile(3);
+            int[] label = new int[5];
+            for (int what = 0; what < 5; what++) {
+                label[what] = v.label(sector, what);
+            }
+            for (int i = 0; i < 8; i++) {
+                c.is(true, v.spoil(sector, i, 100 + i), "spoil of byte " + i + " of sector " + sector);
+            }
+            c.data(v, sector, 100, 101, 102, 103, 104, 105, 106, 107);
+            c.label(v, sector, label);
+        }
     }
 
     private static void scratch() {

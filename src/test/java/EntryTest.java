@@ -8,7 +8,8 @@ public final class EntryTest {
         ordinary();
         wrongInputs();
         brokenOnlyWhereItIsGoneThrough();
-        shortPages();
+        mostEntries();
+        lastEntryIsTheFirstHole();
         c.end();
     }
 
@@ -69,13 +70,31 @@ public final class EntryTest {
         c.misses(v, 1, "of the page that is not there");
     }
 
-    private static void shortPages() {
-        LabelledVolume v = Volumes.withFile(7);
+    /** A directory has as many entries as a file of all sectors has room for: two in each of 35 pages. */
+    private static void mostEntries() {
+        LabelledVolume v = Volumes.full();
         v.spoil(3, 2, 1);
-        c.is(3, v.entry(3, 0, 1), "serial in bytes of a file");
-        c.fails(NoSuchElementException.class, () -> v.entry(3, 1, 1), "seven bytes hold one entry");
-        LabelledVolume w = Volumes.withFile(3);
-        w.spoil(3, 2, 1);
-        c.fails(NoSuchElementException.class, () -> w.entry(3, 0, 1), "three bytes hold none");
+        c.is(3, v.entry(3, 0, 1), "serial in entry 0");
+        c.is(163, v.entry(3, 40, 1), "serial in entry 40");
+        c.is(279 & 255, v.entry(3, 69, 1), "serial in entry 69");
+        c.fails(NoSuchElementException.class, () -> v.entry(3, 70, 1), "entry 70 of 70");
+        c.fails(NoSuchElementException.class, () -> v.open(3, 9999), "open of none of them");
+        v.scavenge();
+        for (int sector = 5; sector < 40; sector++) {
+            c.is(0, v.data(sector, 2) + v.data(sector, 6), "serials in sector " + sector + ", of no files");
+        }
+        c.is(280, v.length(3), "length");
+    }
+
+    /** The same: the last of them is the only hole. */
+    private static void lastEntryIsTheFirstHole() {
+        LabelledVolume v = Volumes.withFile(272);
+        v.spoil(3, 2, 1);
+        v.spoil(38, 6, 0);
+        c.is(0, v.entry(3, 67, 1), "serial in entry 67");
+        c.is(4, v.create(3, 9999, false), "create with the last free sector");
+        c.data(v, 38, 9, 10, 11, 12, 39, 15, 4, 39);
+        c.is(4, v.open(3, 9999), "open of the last entry");
+        c.is(0, v.state(2), "free sectors");
     }
 }

@@ -33,6 +33,12 @@ public final class ReadTest {
         c.is(255, v.read(2, 4), "the map's last byte");
         c.fails(IndexOutOfBoundsException.class, () -> v.read(1, 4), "read behind the root");
         c.fails(IndexOutOfBoundsException.class, () -> v.read(2, 5), "read behind the map");
+        LabelledVolume w = Volumes.withFiles(3);
+        int[] root = {0, 1, 3, 3, 0, 2, 4, 5, 0, 3, 5, 6};
+        for (int i = 0; i < root.length; i++) {
+            c.is(root[i], w.read(1, i), "byte " + i + " of the root");
+        }
+        c.misses(w, 0, "with right hints");
     }
 
     private static void wrongInputs() {

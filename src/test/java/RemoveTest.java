@@ -6,6 +6,7 @@ public final class RemoveTest {
 
     public static void main(String[] args) {
         ordinary();
+        filesOfEachLength();
         entryBecomesAHole();
         orderOfWriting();
         directories();
@@ -37,6 +38,25 @@ public final class RemoveTest {
         c.misses(v, 0, "with right hints");
     }
 
+    /** "how many sectors became free": the pages from the last one on to page 1, and the leader. */
+    private static void filesOfEachLength() {
+        for (int length = 0; length <= 25; length++) {
+            LabelledVolume v = Volumes.withFile(length);
+            int pages = (length + 7) / 8;
+            int written = v.state(1);
+            c.is(pages + 1, v.remove(1, 1), "remove of " + length + " bytes");
+            c.is(36, v.state(2), "free sectors");
+            c.written(v, written + pages + 3, "entry, pages, leader, map");
+            c.data(v, 2, 232, 255, 255, 255, 255);
+            for (int sector = 5; sector < 10; sector++) {
+                c.label(v, sector, 0, 0, 0, -1, -1);
+            }
+            c.is(3, v.create(1, 2, false), "serial that no label says any more");
+            c.misses(v, 0, "with right hints");
+        }
+    }
+
+    /** "the entry becomes a hole", "a HOLE (all 0)". */
     private static void entryBecomesAHole() {
         LabelledVolume v = new LabelledVolume();
         v.create(1, 1000, false);
@@ -153,6 +173,7 @@ public final class RemoveTest {
         c.misses(v, 1, "of the remembered leader of the map");
     }
 
+    /** "at the end nothing is remembered for it." */
     private static void nothingIsRemembered() {
         LabelledVolume v = Volumes.withFile(0);
         v.remove(1, 1);

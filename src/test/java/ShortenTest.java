@@ -5,6 +5,8 @@ public final class ShortenTest {
     private static final Check c = new Check();
 
     public static void main(String[] args) {
+        toEachLength();
+        toTheLength();
         withinThePage();
         toAPageBoundary();
         overPages();
@@ -17,6 +19,58 @@ public final class ShortenTest {
         mapOverSeveralCalls();
         leaderThatIsElsewhere();
         c.end();
+    }
+
+    /** "the pages above n / 8, rounded up, become free", "USED what is left, the data behind that 0". */
+    private static void toEachLength() {
+        for (int length = 0; length <= 24; length++) {
+            for (int n = 0; n <= length; n++) {
+                shorten(length, n);
+            }
+        }
+    }
+
+    private static void shorten(int length, int n) {
+        String what = " of " + length + " bytes shortened to " + n;
+        LabelledVolume v = Volumes.withFile(length);
+        int written = v.state(1);
+        v.shorten(3, n);
+        int had = (length + 7) / 8;
+        int has = (n + 7) / 8;
+        c.is(n, v.length(3), "length" + what);
+        c.is(35 - has, v.state(2), "free sectors" + what);
+        int due = n == length ? 0 : had == has ? 1 : had - has + (has == 0 ? 2 : 3);
+        c.written(v, written + due, what);
+        c.is(has == 0 ? 3 : 4 + has, v.data(3, 3), "hint of the leader" + what);
+        c.is(has == 0 ? -1 : 5, v.label(3, 3), "NEXT of the leader" + what);
+        for (int i = 0; i < 24; i++) {
+            c.is(i < n ? i + 1 : 0, v.data(5 + i / 8, i % 8), "byte " + i + what);
+        }
+        for (int page = 1; page <= has; page++) {
+            int used = page < has ? 8 : n - 8 * (page - 1);
+            c.label(v, 4 + page, 3, page, used, page < has ? 5 + page : -1, page == 1 ? 3 : 3 + page);
+        }
+        for (int page = has + 1; page <= 3; page++) {
+            c.label(v, 4 + page, 0, 0, 0, -1, -1);
+        }
+        c.misses(v, 0, "when all hints are right");
+    }
+
+    /** "nothing if n is the length". */
+    private static void toTheLength() {
+        int[] lengths = {0, 1, 7, 8, 9, 16};
+        for (int length : lengths) {
+            LabelledVolume v = Volumes.withFile(length);
+            v.scratch(1);
+            v.charge(0);
+            String before = Volumes.picture(v);
+            int written = v.state(1);
+            v.shorten(3, length);
+            c.written(v, written, "by shortening to the length " + length);
+            c.is(1, v.state(4), "power");
+            c.misses(v, 0, "as the map is not looked for");
+            c.note(before.equals(Volumes.picture(v)), "shortening to the length changed a sector");
+        }
     }
 
     private static void withinThePage() {

@@ -1,4 +1,7 @@
-/** Volumes that several tests begin with. */
+/**
+ * Volumes that several tests begin with. A test asks no object for more than the 512 calls that the document
+ * promises: that is why sectors are made unreadable to fill a volume, and free ones are not looked at wholly.
+ */
 final class Volumes {
     private Volumes() {
     }
@@ -8,6 +11,15 @@ final class Volumes {
         LabelledVolume v = new LabelledVolume();
         v.create(1, 1, false);
         append(v, 3, bytes);
+        return v;
+    }
+
+    /** Files with the names 1, 2, .. in the root: the leaders are in 3, 5, 6, 8, 9, .., its pages in 4, 7, 10, .. */
+    static LabelledVolume withFiles(int count) {
+        LabelledVolume v = new LabelledVolume();
+        for (int name = 1; name <= count; name++) {
+            v.create(1, name, false);
+        }
         return v;
     }
 
@@ -26,15 +38,31 @@ final class Volumes {
         return v;
     }
 
-    /** All that can be seen of the sectors, as a text. */
+    /** Makes all free sectors unreadable but the lowest few: how many it made so. */
+    static int scratchFree(LabelledVolume v, int spared) {
+        int free = 0;
+        for (int sector = 0; sector < 40; sector++) {
+            if (v.label(sector, 0) == 0) {
+                free++;
+                if (free > spared) {
+                    v.scratch(sector);
+                }
+            }
+        }
+        return Math.max(0, free - spared);
+    }
+
+    /** All that can be seen of the sectors that are in use, and which of the others are free. */
     static String picture(LabelledVolume v) {
         StringBuilder text = new StringBuilder();
         for (int sector = 0; sector < 40; sector++) {
-            for (int what = 0; what < 5; what++) {
-                text.append(v.label(sector, what)).append(' ');
+            int serial = v.label(sector, 0);
+            text.append(serial);
+            for (int what = 1; serial > 0 && what < 5; what++) {
+                text.append(' ').append(v.label(sector, what));
             }
-            for (int i = 0; i < 8; i++) {
-                text.append(v.data(sector, i)).append(' ');
+            for (int i = 0; serial > 0 && i < 8; i++) {
+                text.append(' ').append(v.data(sector, i));
             }
             text.append('\n');
         }

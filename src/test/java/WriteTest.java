@@ -6,7 +6,10 @@ public final class WriteTest {
 
     public static void main(String[] args) {
         withinTheLength();
+        eachByteInItsPage();
+        lowestEightBits();
         behindAll();
+        roomInTheLastPage();
         orderOfWriting();
         wrongInputs();
         fullVolume();
@@ -27,6 +30,59 @@ public final class WriteTest {
         c.is(7, v.read(3, 19), "last byte");
         c.is(20, v.length(3), "length");
         c.written(v, before + 4, "one for each");
+    }
+
+    /** "A byte within the length: its page." */
+    private static void eachByteInItsPage() {
+        for (int i = 0; i < 20; i++) {
+            LabelledVolume v = Volumes.withFile(20);
+            int before = v.state(1);
+            v.write(3, i, 200);
+            for (int k = 0; k < 24; k++) {
+                int due = k == i ? 200 : k < 20 ? k + 1 : 0;
+                c.is(due, v.data(5 + k / 8, k % 8), "byte " + k + " when byte " + i + " was written");
+            }
+            c.written(v, before + 1, "for byte " + i);
+            c.is(20, v.length(3), "length when byte " + i + " was written");
+        }
+    }
+
+    /** "Byte i becomes the lowest eight bits of v": within the length, in the last page, and in a new one. */
+    private static void lowestEightBits() {
+        int[][] values = {{0, 0}, {255, 255}, {256, 0}, {257, 1}, {-1, 255}, {-256, 0}, {-255, 1}, {0x1280, 0x80},
+            {Integer.MAX_VALUE, 255}, {Integer.MIN_VALUE, 0}};
+        for (int[] value : values) {
+            LabelledVolume v = Volumes.withFile(8);
+            v.write(3, 3, value[0]);
+            c.is(value[1], v.data(5, 3), "data when " + value[0] + " was written within the length");
+            c.is(value[1], v.read(3, 3), "read of it");
+            v.write(3, 8, value[0]);
+            c.is(value[1], v.data(6, 0), "data when " + value[0] + " was written to a new page");
+            c.is(value[1], v.read(3, 8), "read of it");
+            v.write(3, 9, value[0]);
+            c.is(value[1], v.data(6, 1), "data when " + value[0] + " was written behind all");
+            c.is(value[1], v.read(3, 9), "read of it");
+            c.data(v, 5, 1, 2, 3, value[1], 5, 6, 7, 8);
+        }
+    }
+
+    /** "the last page, if it is not the leader and has room; else a sector is taken". */
+    private static void roomInTheLastPage() {
+        for (int length = 0; length <= 17; length++) {
+            LabelledVolume v = Volumes.withFile(length);
+            int free = v.state(2);
+            v.write(3, length, 77);
+            int taken = length % 8 == 0 ? 1 : 0;
+            c.is(free - taken, v.state(2), "free sectors with one more byte behind " + length);
+            int sector = 5 + length / 8;
+            c.label(v, sector, 3, length / 8 + 1, length % 8 + 1, -1, length < 8 ? 3 : sector - 1);
+            c.is(77, v.data(sector, length % 8), "the byte behind " + length);
+            c.is(sector, v.data(3, 3), "hint of the last page behind " + length);
+            c.is(length + 1, v.length(3), "length");
+            for (int i = length % 8 + 1; i < 8; i++) {
+                c.is(0, v.data(sector, i), "other data behind " + length);
+            }
+        }
     }
 
     private static void behindAll() {
@@ -107,16 +163,21 @@ public final class WriteTest {
         c.fails(UnsupportedOperationException.class, () -> v.write(99, 0, 0), "write without power");
     }
 
+    /** "IllegalStateException: .. the volume is full"; what needs no sector is done all the same. */
     private static void fullVolume() {
         LabelledVolume v = Volumes.full();
         int length = v.length(3);
         c.is(280, length, "length of a file that has all sectors");
-        String before = Volumes.picture(v);
+        int written = v.state(1);
         c.fails(IllegalStateException.class, () -> v.write(3, length, 1), "write behind all on a full volume");
-        c.is(true, before.equals(Volumes.picture(v)), "a full volume is left as it was");
+        c.written(v, written, "on a full volume");
+        c.is(length, v.length(3), "length");
         v.write(3, length - 1, 5);
         c.is(5, v.read(3, length - 1), "a byte within the length");
         c.is(1, v.read(3, 256), "byte 256");
+        v.shorten(3, length - 1);
+        v.write(3, length - 1, 6);
+        c.is(6, v.read(3, length - 1), "a byte where there is room");
     }
 
     private static void broken() {
