@@ -9,6 +9,7 @@ public final class AdoptTest {
         firstHole();
         newPages();
         noRoomForAPage();
+        noNewNameWithoutRoom();
         over();
         overForAWholeDirectory();
         names();
@@ -44,6 +45,7 @@ public final class AdoptTest {
         c.note(false, "create with charge 1 did not throw");
     }
 
+    /** "an entry for it comes into the root's first hole, else behind its last entry as above". */
     private static void leaderWithoutAnEntry() {
         LabelledVolume v = Volumes.withFile(0);
         leaveLeader(v, 77, false);
@@ -53,6 +55,7 @@ public final class AdoptTest {
         c.is(4, v.open(1, 77), "open of the adopted file");
     }
 
+    /** "an entry for it comes into the root's first hole". */
     private static void firstHole() {
         LabelledVolume v = new LabelledVolume();
         for (int name = 1; name <= 3; name++) {
@@ -66,6 +69,7 @@ public final class AdoptTest {
         c.is(0, v.entry(1, 1, 0), "name in the second hole");
     }
 
+    /** "if it needs a page, the lowest free sector is taken". */
     private static void newPages() {
         LabelledVolume v = new LabelledVolume();
         leaveLeader(v, 5, false);
@@ -104,6 +108,19 @@ public final class AdoptTest {
         adopts(w, 5, 1);
         c.label(w, 7, 1, 2, 4, -1, 4);
         c.is(5, w.open(1, 3), "open when there was room");
+    }
+
+    /** The same: a file that is not adopted keeps its name, be it one that would have been changed. */
+    private static void noNewNameWithoutRoom() {
+        for (int name = 0; name <= 1; name++) {
+            LabelledVolume v = Volumes.withFiles(2);
+            leaveLeader(v, 3, false);
+            v.spoil(6, 1, name);
+            Volumes.scratchFree(v, 0);
+            adopts(v, 5, 0);
+            c.data(v, 6, 0, name, 0, 6);
+            c.is(1, v.report(4), "sectors written: the map");
+        }
     }
 
     /** The same: the first file has the room that there is, and the others are left. */
@@ -210,6 +227,7 @@ public final class AdoptTest {
         c.is(4, v.open(1, 10004), "open of the second one");
     }
 
+    /** "no entry of the root has it": bytes behind what is USED are no entry. */
     private static void bytesBehindTheLastEntryAreNoName() {
         LabelledVolume v = Volumes.withFile(0);
         leaveLeader(v, 2, false);
@@ -233,7 +251,7 @@ public final class AdoptTest {
         return v;
     }
 
-    /** Of the files that are not reached 4 is the lowest that is in no directory. */
+    /** "the lowest one that no other directory not reached has an entry for": of 3, 4 and 5 that is 4, and then 5. */
     private static void notListedGoesFirst() {
         LabelledVolume v = looseDirectoryWithEntry(1);
         adopts(v, 5, 2);
@@ -311,7 +329,7 @@ public final class AdoptTest {
         c.is(3, w.open(5, 7), "open in the directory");
     }
 
-    /** Directories 3 and 4 list one another, file 5 is listed by none. */
+    /** "or, if each is in one, the lowest of all": directories 3 and 4 list one another, file 5 is listed by none. */
     private static void ring() {
         LabelledVolume v = new LabelledVolume();
         v.create(1, 1, true);
@@ -328,6 +346,7 @@ public final class AdoptTest {
         c.is(0, v.entry(4, 0, 1), "the entry that closed the ring is a hole");
     }
 
+    /** "no other directory not reached": its own entry does not keep a directory back. */
     private static void directoryThatListsItself() {
         LabelledVolume v = new LabelledVolume();
         v.create(1, 1, true);
@@ -344,7 +363,7 @@ public final class AdoptTest {
         c.is(5, v.entry(1, 2, 1), "serial of the file that lost its entry");
     }
 
-    /** Step (4) is left out without a root alone. */
+    /** "If the root is not, (3) and (4) are left out.": for want of the map they are not. */
     private static void withoutAMap() {
         LabelledVolume v = Volumes.withFile(0);
         leaveLeader(v, 77, false);

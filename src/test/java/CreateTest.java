@@ -27,6 +27,7 @@ public final class CreateTest {
         c.end();
     }
 
+    /** "Creates a file, or a directory, with a name in a directory: its serial." */
     private static void ordinary() {
         LabelledVolume v = new LabelledVolume();
         c.is(3, v.create(1, 258, false), "create");
@@ -46,7 +47,10 @@ public final class CreateTest {
         c.misses(v, 0, "with right hints");
     }
 
-    /** Leader, new page, the root's leader with both link and hint, map. */
+    /**
+     * "the leader .., then the entry", "as a byte behind all does": leader, new page, the root's leader with both
+     * link and hint, map.
+     */
     private static void orderOfWriting() {
         for (int charge = 0; charge <= 4; charge++) {
             LabelledVolume v = new LabelledVolume();
@@ -66,7 +70,7 @@ public final class CreateTest {
         }
     }
 
-    /** Leader, new page, END, the root's leader, map. */
+    /** "as a byte behind all does, the END being the last page": leader, new page, END, the root's leader, map. */
     private static void orderOfWritingInLaterPage() {
         for (int charge = 0; charge <= 5; charge++) {
             LabelledVolume v = new LabelledVolume();
@@ -119,6 +123,7 @@ public final class CreateTest {
         c.data(v, 4, 0, 9, 7);
     }
 
+    /** "it has an entry (no hole) with that name": it alone, and no other directory. */
     private static void inDirectories() {
         LabelledVolume v = new LabelledVolume();
         v.create(1, 1, true);
@@ -150,6 +155,7 @@ public final class CreateTest {
         c.fails(IllegalArgumentException.class, () -> v.create(3, 5, false), "create in a file of KIND 2");
     }
 
+    /** "it is broken": the entries are gone through up to one with the name, or to the end. */
     private static void brokenDirectory() {
         LabelledVolume v = new LabelledVolume();
         for (int name = 1; name <= 3; name++) {
@@ -250,6 +256,7 @@ public final class CreateTest {
         c.label(v, 4, 1, 1, 4, -1, 0);
     }
 
+    /** "the sectors (one, or two for a new page of the directory, the second one) are taken". */
     private static void oneFreeSector() {
         LabelledVolume v = Volumes.full();
         v.shorten(3, v.length(3) - 8);
@@ -330,6 +337,7 @@ public final class CreateTest {
         c.is(3, v.create(1, 1, false), "create in a root of KIND 0");
     }
 
+    /** "its leader is remembered at the end." */
     private static void remembersTheNewLeader() {
         LabelledVolume v = new LabelledVolume();
         v.create(1, 1, false);

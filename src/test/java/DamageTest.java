@@ -11,6 +11,7 @@ public final class DamageTest {
         c.end();
     }
 
+    /** "(this is no writing): true; false if there is no such byte or sector, or it is free or unreadable." */
     private static void spoil() {
         LabelledVolume v = Volumes.withFile(3);
         int before = v.state(1);
@@ -60,6 +61,7 @@ public final class DamageTest {
         }
     }
 
+    /** "A sector becomes unreadable: true; false if it is, or there is no such one." */
     private static void scratch() {
         LabelledVolume v = Volumes.withFile(3);
         int free = v.state(2);
@@ -75,6 +77,10 @@ public final class DamageTest {
         c.label(v, 39, -1, -1, -1, -1, -1);
     }
 
+    /**
+     * "The free sector to becomes like from, label and data (this is no writing): true; false if there is no such
+     * one, to is not free, or from is free or unreadable."
+     */
     private static void ghost() {
         LabelledVolume v = Volumes.withFile(9);
         int before = v.state(1);

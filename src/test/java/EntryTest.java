@@ -27,6 +27,7 @@ public final class EntryTest {
         c.is(sector, v.entry(1, k, 2), "sector of entry " + k);
     }
 
+    /** "Of entry k (from 0, holes among them) of a directory: the name (what 0), the serial (1), the sector (2)." */
     private static void ordinary() {
         LabelledVolume v = withThree();
         is(v, 0, 300, 3, 3);
@@ -40,6 +41,7 @@ public final class EntryTest {
         c.misses(v, 0, "as the sector is only told");
     }
 
+    /** "it is no directory, or what is not 0 .. 2", "it has no such entry". */
     private static void wrongInputs() {
         LabelledVolume v = withThree();
         int[] noFile = {-1, 0, 6, 61};
@@ -60,6 +62,7 @@ public final class EntryTest {
         c.fails(UnsupportedOperationException.class, () -> v.entry(99, 0, 9), "entry without power");
     }
 
+    /** "it is broken (gone through up to this one)". */
     private static void brokenOnlyWhereItIsGoneThrough() {
         LabelledVolume v = withThree();
         v.scratch(7);

@@ -10,6 +10,10 @@ public final class LookTest {
         c.end();
     }
 
+    /**
+     * "Of a label: 0 the serial, 1 the page, 2 USED, 3 NEXT, 4 BEFORE; -1 if the sector is unreadable, or there is
+     * none such."
+     */
     private static void label() {
         LabelledVolume v = Volumes.withFile(9);
         c.label(v, 5, 3, 1, 8, 6, 3);
@@ -27,6 +31,7 @@ public final class LookTest {
         c.label(v, 5, -1, -1, -1, -1, -1);
     }
 
+    /** "Byte i of a sector's data, 0 .. 255; -1 if the sector is unreadable, or there is none such." */
     private static void data() {
         LabelledVolume v = Volumes.withFile(0);
         v.write(3, 0, 255);
@@ -44,6 +49,10 @@ public final class LookTest {
         c.is(-1, v.data(5, 0), "data of an unreadable sector");
     }
 
+    /**
+     * "0 how many misses there were, 1 how many sectors were written, 2 how many are free, 3 how many are unreadable,
+     * 4 the power (1, or 0 without); -1 for another what."
+     */
     private static void state() {
         LabelledVolume v = Volumes.withFile(9);
         v.spoil(3, 3, 40);
@@ -63,6 +72,10 @@ public final class LookTest {
         }
     }
 
+    /**
+     * "0 the files that are there, 1 sectors lost, 2 leaders made (the root's and the map's, too), 3 files adopted, 4
+     * sectors written; 0 if there was none, -1 for another what."
+     */
     private static void report() {
         LabelledVolume v = Volumes.withFile(9);
         v.scratch(3);

@@ -57,8 +57,9 @@ public final class PowerTest {
         }
     }
 
-    /** "that call throws UnsupportedOperationException, what it wrote stays": so many sectors are as they were to be. */
-    private static void isCutOff(int charge, Supplier<LabelledVolume> maker, Consumer<LabelledVolume> act, String what) {
+    /** "what it wrote stays", "WRITTEN label and data in one act": so many sectors are as they were to be. */
+    private static void isCutOff(int charge, Supplier<LabelledVolume> maker, Consumer<LabelledVolume> act,
+            String what) {
         LabelledVolume whole = maker.get();
         String[] before = Volumes.picture(whole).split("\n");
         act.accept(whole);

@@ -125,7 +125,8 @@ public final class RandomRunsTest {
         }
         if (!thrown.isEmpty() && hasPower == hadPower) {
             c.written(v, written, "by a call that threw " + thrown);
-            c.note(replay.picture(k).equals(replay.picture(k + 1)), "a call that threw " + thrown + " changed a sector");
+            boolean same = replay.picture(k).equals(replay.picture(k + 1));
+            c.note(same, "a call that threw " + thrown + " changed a sector");
         }
     }
 

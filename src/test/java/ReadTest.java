@@ -16,6 +16,7 @@ public final class ReadTest {
         c.end();
     }
 
+    /** "Byte i (0 .. 255) of a file". */
     private static void ordinary() {
         LabelledVolume v = Volumes.withFile(20);
         for (int i = 0; i < 20; i++) {
@@ -26,6 +27,7 @@ public final class ReadTest {
         c.misses(v, 0, "with right hints");
     }
 
+    /** "(also of a directory or the map)". */
     private static void directoriesAndTheMap() {
         LabelledVolume v = Volumes.withFile(0);
         c.is(3, v.read(1, 2), "serial in the root's first entry");
@@ -102,6 +104,7 @@ public final class ReadTest {
         c.misses(v, 0, "as it is not gone to");
     }
 
+    /** "IllegalStateException: it is broken." */
     private static void broken() {
         LabelledVolume v = Volumes.withFile(20);
         v.scratch(5);

@@ -136,6 +136,12 @@ public final class RefusedTest {
         return v;
     }
 
+    private static LabelledVolume brokenFileWithoutMap() {
+        LabelledVolume v = brokenFile(6);
+        v.scratch(2);
+        return v;
+    }
+
     private static LabelledVolume withHint(int bytes, int hint) {
         LabelledVolume v = Volumes.withFile(bytes);
         v.spoil(3, 3, hint);
@@ -184,6 +190,7 @@ public final class RefusedTest {
         }
         c.refused(() -> brokenFile(6), 1, STATE, v -> v.shorten(3, 8), "shorten to a page that is nowhere");
         c.refused(() -> brokenFile(6), 1, STATE, v -> v.shorten(3, 0), "shorten beyond that page");
+        c.refused(() -> brokenFileWithoutMap(), 1, STATE, v -> v.shorten(3, 8), "shorten without it and a map");
         c.refused(() -> Volumes.withFile(0), 0, INDEX, v -> v.shorten(3, 1), "shorten of an empty file to 1");
         noPlainFiles((v, file) -> v.shorten(file, -1), "shorten");
     }
@@ -256,11 +263,7 @@ public final class RefusedTest {
     private static void removeOfABrokenFile() {
         c.refused(() -> brokenFile(6), 1, STATE, v -> v.remove(1, 1), "remove without page 1");
         c.refused(() -> brokenFile(99), 2, STATE, v -> v.remove(1, 1), "remove without page 1 and the hint");
-        c.refused(() -> {
-            LabelledVolume v = brokenFile(6);
-            v.scratch(2);
-            return v;
-        }, 1, STATE, v -> v.remove(1, 1), "remove without page 1 and a map");
+        c.refused(() -> brokenFileWithoutMap(), 1, STATE, v -> v.remove(1, 1), "remove without page 1 and a map");
     }
 
     /** Promise 8: no file, broken. */

@@ -70,7 +70,10 @@ public final class RemoveTest {
         c.is(8, v.length(1), "length of a root of holes");
     }
 
-    /** Entry, the pages from the last one on, leader, map. */
+    /**
+     * "the entry becomes a hole; then the file's pages from the last one on to page 1, .. then its leader become
+     * free", and the map at the end.
+     */
     private static void orderOfWriting() {
         for (int charge = 0; charge <= 5; charge++) {
             LabelledVolume v = Volumes.withFile(16);
@@ -135,6 +138,7 @@ public final class RemoveTest {
         c.fails(UnsupportedOperationException.class, () -> v.remove(99, 1), "remove without power");
     }
 
+    /** "(all were found before, the map's page behind them)". */
     private static void broken() {
         LabelledVolume v = Volumes.withFile(24);
         v.scratch(6);
@@ -144,6 +148,7 @@ public final class RemoveTest {
         c.is(true, before.equals(Volumes.picture(v)), "nothing is changed");
     }
 
+    /** "each ahead of the one behind it". */
     private static void linksAreHints() {
         LabelledVolume v = Volumes.withFile(24);
         v.ghost(6, 30);
@@ -154,6 +159,7 @@ public final class RemoveTest {
         c.is(0, v.label(30, 0), "page 2 is free");
     }
 
+    /** "Removes the file of an entry, which is found as by open()": its leader is the one that was found so. */
     private static void leaderIsNotLookedForAgain() {
         LabelledVolume v = Volumes.withFile(8);
         v.ghost(3, 30);

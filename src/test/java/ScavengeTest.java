@@ -6,6 +6,8 @@ public final class ScavengeTest {
 
     public static void main(String[] args) {
         nothingToDo();
+        countsFiles();
+        nothingIsLeft();
         powerAndMemory();
         whatIsRememberedIsForgotten();
         hintsAndLinks();
@@ -78,6 +80,37 @@ public final class ScavengeTest {
         c.misses(v, 0, "by scavenging");
     }
 
+    /** "how many files are there then, the root and the map among them." */
+    private static void countsFiles() {
+        for (int files = 0; files <= 5; files++) {
+            scavenge(Volumes.withFiles(files), files + 2, 0, 0, 0, 0);
+        }
+        LabelledVolume withoutMap = Volumes.withFiles(2);
+        withoutMap.scratch(1);
+        withoutMap.scratch(2);
+        Volumes.scratchFree(withoutMap, 0);
+        scavenge(withoutMap, 3, 0, 0, 0, 0);
+        LabelledVolume withoutRoot = Volumes.withFiles(2);
+        withoutRoot.scratch(0);
+        withoutRoot.scratch(4);
+        Volumes.scratchFree(withoutRoot, 0);
+        scavenge(withoutRoot, 3, 0, 0, 0, 1);
+    }
+
+    /** The same: none, when no sector can be read. */
+    private static void nothingIsLeft() {
+        LabelledVolume v = Volumes.withFile(8);
+        for (int sector = 0; sector < 40; sector++) {
+            v.scratch(sector);
+        }
+        scavenge(v, 0, 0, 0, 0, 0);
+        c.is(0, v.state(2), "free sectors");
+        c.is(40, v.state(3), "unreadable sectors");
+        c.fails(NoSuchElementException.class, () -> v.create(1, 1, false), "create without a root");
+        c.fails(NoSuchElementException.class, () -> v.length(2), "length of no map");
+        c.misses(v, 0, "as nothing is remembered");
+    }
+
     private static void powerAndMemory() {
         LabelledVolume v = Volumes.withFile(8);
         v.charge(1);
@@ -117,6 +150,10 @@ public final class ScavengeTest {
         }
     }
 
+    /**
+     * "The links of all kept pages, the leaders' hints, and the map's five bytes (USED 5) are put right", "the
+     * entry's hint is put right".
+     */
     private static void hintsAndLinks() {
         LabelledVolume v = Volumes.withFile(20);
         v.spoil(3, 3, 99);
@@ -134,6 +171,7 @@ public final class ScavengeTest {
         c.misses(v, 0, "with all put right");
     }
 
+    /** "of several sectors with the same page the lowest one": of the leader, which has another name. */
     private static void lowestOfSeveral() {
         LabelledVolume v = Volumes.withFile(20);
         v.remove(1, 1);
@@ -151,6 +189,7 @@ public final class ScavengeTest {
         c.fails(NoSuchElementException.class, () -> v.open(1, 2), "the lost one's name");
     }
 
+    /** "up to the first page that is not there", "All other sectors with a serial become free: they are LOST." */
     private static void pagesBehindAGap() {
         LabelledVolume v = Volumes.withFile(32);
         v.scratch(6);
@@ -164,6 +203,7 @@ public final class ScavengeTest {
         c.is(255, v.data(2, 1), "the map's second byte");
     }
 
+    /** "or that comes behind a page (from 1 on) with less than 8 USED". */
     private static void pagesBehindAShortOne() {
         LabelledVolume v = Volumes.withFile(3);
         v.ghost(5, 30);
@@ -242,6 +282,7 @@ public final class ScavengeTest {
         c.is(0, w.label(7, 0), "serial of a sector that nobody has");
     }
 
+    /** "All other sectors with a serial become free": all of a file that has neither page 0 nor page 1. */
     private static void onlyALaterPage() {
         LabelledVolume v = Volumes.withFile(16);
         v.scratch(3);
@@ -251,6 +292,7 @@ public final class ScavengeTest {
         c.data(v, 4, 0, 0, 0, 0);
     }
 
+    /** "the lowest free sector becomes its leader (USED 8, name 10000 + serial, KIND 0, other data 0)". */
     private static void headlessFile() {
         LabelledVolume v = Volumes.withFile(20);
         v.scratch(3);
@@ -326,6 +368,7 @@ public final class ScavengeTest {
         c.is(4, w.label(9, 0), "serial in the next one");
     }
 
+    /** "Then the root, if it has no leader: likewise". */
     private static void rootWithoutLeader() {
         LabelledVolume v = Volumes.withFile(0);
         v.scratch(0);
@@ -445,6 +488,7 @@ public final class ScavengeTest {
         return v;
     }
 
+    /** "then the map's leader likewise, and then, if it is not there, the map's page". */
     private static void mapWithoutLeaderOrPage() {
         LabelledVolume v = Volumes.withFile(0);
         v.scratch(2);
@@ -525,6 +569,10 @@ public final class ScavengeTest {
         c.label(x, 7, 2, 1, 5, -1, 6);
     }
 
+    /**
+     * "one COUNTS if its serial is 3 or above, that file is there, its leader has that name, and it was not REACHED
+     * yet".
+     */
     private static void entriesThatDoNotCount() {
         LabelledVolume v = new LabelledVolume();
         for (int name = 1; name <= 7; name++) {
@@ -626,6 +674,7 @@ public final class ScavengeTest {
         c.is(0, w.length(4), "length of a directory without entries");
     }
 
+    /** "and it was not REACHED yet": the first entry counts. */
     private static void entriesForOneFileTwice() {
         LabelledVolume v = Volumes.withFile(0);
         v.create(1, 2, false);
@@ -635,7 +684,7 @@ public final class ScavengeTest {
         c.data(v, 4, 0, 1, 3, 3, 0, 2, 4, 5);
     }
 
-    /** File 5 is in directory 3 and, further behind, in the root: the first one that is come to counts. */
+    /** "and if it is a directory that is walked now": file 5 is in directory 3 and, further behind, in the root. */
     private static void directoriesAreWalkedAtOnce() {
         LabelledVolume v = new LabelledVolume();
         v.create(1, 1, true);
@@ -723,6 +772,7 @@ public final class ScavengeTest {
         c.data(v, 20, 0, 0, 1, 20, 0, 0, 0, 0);
     }
 
+    /** "the map's five bytes": the others are left. */
     private static void fiveBytesOfTheMap() {
         LabelledVolume v = new LabelledVolume();
         v.spoil(2, 5, 9);
@@ -730,7 +780,9 @@ public final class ScavengeTest {
         c.is(9, v.data(2, 5), "the byte behind the map's five");
     }
 
-    /** Each of the three bytes alone, then all of them; the data behind them is not the scavenger's. */
+    /**
+     * "These have the names 0, KINDS 1 and 0 then.": each of the three bytes alone, then all; those behind are left.
+     */
     private static void spoiltNameAndKindOfTheMap() {
         for (int i = 0; i < 3; i++) {
             LabelledVolume v = new LabelledVolume();
@@ -754,6 +806,7 @@ public final class ScavengeTest {
         c.data(full, 1, 0, 0, 0, 1);
     }
 
+    /** The same, of the root. */
     private static void spoiltNameAndKindOfTheRoot() {
         int[] spoilt = {7, 7, 0};
         for (int i = 0; i < 3; i++) {

@@ -182,7 +182,8 @@ public final class SectorsTest {
 
     /** "its NAME (bytes 0 and 1, the higher first)". */
     private static void nameHasTheHigherByteFirst() {
-        int[][] names = {{1, 0, 1}, {255, 0, 255}, {256, 1, 0}, {257, 1, 1}, {511, 1, 255}, {9984, 39, 0}, {9999, 39, 15}};
+        int[][] names = {{1, 0, 1}, {255, 0, 255}, {256, 1, 0}, {257, 1, 1}, {511, 1, 255}, {9984, 39, 0},
+            {9999, 39, 15}};
         for (int[] name : names) {
             LabelledVolume v = new LabelledVolume();
             v.create(1, name[0], false);

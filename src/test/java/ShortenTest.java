@@ -18,6 +18,7 @@ public final class ShortenTest {
         mapOnlyWhenPagesBecomeFree();
         mapOverSeveralCalls();
         leaderThatIsElsewhere();
+        leaderThatIsAnotherSector();
         c.end();
     }
 
@@ -73,6 +74,7 @@ public final class ShortenTest {
         }
     }
 
+    /** "If no page becomes free, the last page is written alone". */
     private static void withinThePage() {
         LabelledVolume v = Volumes.withFile(20);
         int before = v.state(1);
@@ -113,6 +115,7 @@ public final class ShortenTest {
         c.misses(v, 0, "with right hints");
     }
 
+    /** "the leader also with its own sector as the hint": it is written once. */
     private static void toNothing() {
         LabelledVolume v = Volumes.withFile(9);
         int before = v.state(1);
@@ -125,7 +128,10 @@ public final class ShortenTest {
         c.written(v, before + 4, "nothing more");
     }
 
-    /** The last page first, then the page that is last then, the leader, the map. */
+    /**
+     * "become free, the last one first", "then the page that is last then is written", "then, if that is another
+     * sector, the leader with its hint", and the map at the end.
+     */
     private static void orderOfWriting() {
         for (int charge = 0; charge <= 5; charge++) {
             LabelledVolume v = Volumes.withFile(20);
@@ -143,6 +149,7 @@ public final class ShortenTest {
         }
     }
 
+    /** "each ahead of the one behind it": by BEFORE, and by searching where that is missed. */
     private static void linksAreHints() {
         LabelledVolume v = Volumes.withFile(20);
         v.ghost(6, 30);
@@ -182,6 +189,7 @@ public final class ShortenTest {
         c.fails(UnsupportedOperationException.class, () -> v.shorten(99, 0), "shorten without power");
     }
 
+    /** "(they, and the page that is last then, were found before anything is written". */
     private static void broken() {
         LabelledVolume v = Volumes.withFile(20);
         v.scratch(6);
@@ -225,6 +233,7 @@ public final class ShortenTest {
         c.is(128, v.data(2, 0), "map when both are taken");
     }
 
+    /** "(they, and the page that is last then, were found .., each ahead of the one behind it)": so is page 0. */
     private static void leaderThatIsElsewhere() {
         LabelledVolume v = Volumes.withFile(8);
         v.ghost(3, 30);
@@ -233,5 +242,22 @@ public final class ShortenTest {
         c.misses(v, 2, "of the remembered leader, and of it by BEFORE");
         c.label(v, 30, 3, 0, 8, -1, -1);
         c.is(30, v.data(30, 3), "hint of the leader to itself");
+    }
+
+    /** "then, if that is another sector, the leader with its hint": page 0 is not what is remembered. */
+    private static void leaderThatIsAnotherSector() {
+        LabelledVolume v = Volumes.withFile(8);
+        v.ghost(3, 30);
+        v.spoil(4, 3, 30);
+        c.is(3, v.open(1, 1), "open, that remembers the ghost");
+        v.spoil(3, 3, 77);
+        int before = v.state(1);
+        v.shorten(3, 0);
+        c.written(v, before + 4, "freed page, page 0, leader, map");
+        c.label(v, 3, 3, 0, 8, -1, -1);
+        c.is(3, v.data(3, 3), "hint of page 0 to itself");
+        c.label(v, 30, 3, 0, 8, 5, -1);
+        c.is(3, v.data(30, 3), "hint of the leader");
+        c.misses(v, 0, "by hints that the labels agree with");
     }
 }

@@ -17,6 +17,7 @@ public final class TakingTest {
         foundBeforeTaking();
         notFoundWithoutNeed();
         writtenAtTheEnd();
+        writtenBehindAllElse();
         notWrittenWithoutChange();
         c.end();
     }
@@ -228,6 +229,22 @@ public final class TakingTest {
         v.create(1, 1, false);
         c.data(v, 2, 224, 255, 255, 255, 255);
         c.misses(v, 0, "with right bits");
+    }
+
+    /** "At the end of a call that took or freed some, the map's page (if found) is written". */
+    private static void writtenBehindAllElse() {
+        LabelledVolume v = Volumes.withFile(8);
+        v.charge(3);
+        c.fails(UnsupportedOperationException.class, () -> v.write(3, 8, 1), "write, cut off before the map");
+        c.label(v, 6, 3, 2, 1, -1, 5);
+        c.is(6, v.data(3, 3), "hint of the leader");
+        c.data(v, 2, 192, 255, 255, 255, 255);
+
+        LabelledVolume w = Volumes.withFile(8);
+        w.charge(3);
+        c.fails(UnsupportedOperationException.class, () -> w.remove(1, 1), "remove, cut off before the map");
+        c.is(0, w.label(3, 0), "serial where the leader was");
+        c.data(w, 2, 192, 255, 255, 255, 255);
     }
 
     /** "but not if that changes nothing." */

@@ -18,6 +18,7 @@ public final class WriteTest {
         c.end();
     }
 
+    /** "Byte i becomes the lowest eight bits of v": also when it is that already, a sector is written. */
     private static void withinTheLength() {
         LabelledVolume v = Volumes.withFile(20);
         int before = v.state(1);
@@ -85,6 +86,10 @@ public final class WriteTest {
         }
     }
 
+    /**
+     * "if i is the length it comes behind all", "it becomes the next page (USED 1, BEFORE the last one, other data
+     * 0)".
+     */
     private static void behindAll() {
         LabelledVolume v = Volumes.withFile(0);
         v.write(3, 0, 300);
@@ -109,7 +114,10 @@ public final class WriteTest {
         c.misses(v, 0, "with right hints");
     }
 
-    /** New page, last page, leader, map. */
+    /**
+     * "then the last page is written with its NEXT, then the leader with the hint of the last page (both at once, if
+     * that is the leader)", and the map at the end.
+     */
     private static void orderOfWriting() {
         for (int charge = 0; charge <= 4; charge++) {
             LabelledVolume v = Volumes.withFile(8);
@@ -133,6 +141,7 @@ public final class WriteTest {
         c.is(3, w.data(3, 3), "hint of the leader");
     }
 
+    /** "IndexOutOfBoundsException: i is below 0, or above the length.", and the other exceptions. */
     private static void wrongInputs() {
         LabelledVolume v = Volumes.withFile(9);
         v.create(1, 2, true);
@@ -180,6 +189,7 @@ public final class WriteTest {
         c.is(6, v.read(3, length - 1), "a byte where there is room");
     }
 
+    /** "IllegalStateException: it is broken": where the page is gone to, and where the last page is. */
     private static void broken() {
         LabelledVolume v = Volumes.withFile(20);
         v.scratch(6);
@@ -192,6 +202,10 @@ public final class WriteTest {
         c.fails(IllegalStateException.class, () -> v.write(3, -1, 1), "broken goes before a wrong byte");
     }
 
+    /**
+     * "(both at once, if that is the leader)": a ghost of the leader, which a spoilt hint calls last, is another
+     * sector.
+     */
     private static void spoiltHintOfAGhostLeader() {
         LabelledVolume v = Volumes.withFile(0);
         v.ghost(3, 30);
