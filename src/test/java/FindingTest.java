@@ -26,6 +26,7 @@ public final class FindingTest {
         lengthUpToTheLastPage();
         lastPageIsNotGoneTo();
         otherPagesAreGoneTo();
+        pagesAboveTheNumberOfSectors();
         entriesUpToTheEnd();
         entriesNeedNoHintOfTheLastPage();
         c.end();
@@ -333,6 +334,28 @@ public final class FindingTest {
         c.misses(v, 1, "as the last page is not gone to");
         v.scratch(30);
         c.fails(IllegalStateException.class, () -> v.read(3, 8), "read of page 2 without page 1");
+    }
+
+    /** "if there is none, the file is BROKEN": a ghost lets a file go on above pages that it has no more. */
+    private static void pagesAboveTheNumberOfSectors() {
+        LabelledVolume v = Volumes.withFile(240);
+        v.ghost(34, 39);
+        v.shorten(3, 0);
+        v.spoil(3, 3, 39);
+        c.is(240, v.length(3), "length up to the ghost");
+        Volumes.append(v, 3, 96);
+        c.label(v, 16, 3, 42, 8, -1, 15);
+        c.is(336, v.length(3), "length up to page 42");
+        c.is(336 & 255, v.read(3, 335), "byte of the last page");
+        c.fails(IllegalStateException.class, () -> v.read(3, 327), "read of the page ahead of it");
+        c.fails(IllegalStateException.class, () -> v.shorten(3, 0), "shorten to nothing");
+        c.fails(IllegalStateException.class, () -> v.remove(1, 1), "remove");
+        v.shorten(3, 300);
+        c.is(300, v.length(3), "length when it was shortened to pages that are there");
+        c.misses(v, 2, "of the page ahead of the ghost, by shorten and by remove");
+        c.is(3, v.scavenge(), "scavenge");
+        c.is(9, v.report(1), "sectors lost");
+        c.is(0, v.length(3), "length behind the scavenging");
     }
 
     /** "ENTRIES are gone through from the leader on, up to a page whose NEXT is NONE, the END." */
