@@ -1121,23 +1121,23 @@ public final class LabelledVolume {
                 if (place == NONE) {
                     return;
                 }
-                if (settleEntry(place)) {
-                    walkDirectory(serialAt(place), depth + 1);
-                }
+                settleEntry(place, depth);
             }
         }
 
-        /** Puts an entry right, or makes it a hole: whether it reached a directory, that is to be walked. */
-        private boolean settleEntry(int place) {
+        /** An entry that counts is put right, and what it leads to is walked at once if it is a directory. */
+        private void settleEntry(int place, int depth) {
             int serial = serialAt(place);
             int leader = serial < FIRST_SERIAL || serial > LAST_SERIAL ? NONE : disk.search(serial, 0);
             if (leader == NONE || isReached(serial) || disk.nameAt(leader, 0) != nameAt(place)) {
                 disk.makeHole(place / BYTES, place % BYTES);
-                return false;
+                return;
             }
             disk.setByte(place / BYTES, place % BYTES + ENTRY_SECTOR, leader);
             reached |= 1L << serial;
-            return disk.isDirectory(leader);
+            if (disk.isDirectory(leader)) {
+                walkDirectory(serial, depth + 1);
+            }
         }
 
         /** The lowest file not reached that no other such directory lists, else the lowest of all. */
