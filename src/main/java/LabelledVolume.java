@@ -345,14 +345,10 @@ public final class LabelledVolume {
         }
     }
 
-    /** A last page that is the leader itself gets its link and its hint in one writing. */
     private void linkBehind(int leader, int last, int sector) {
         disk.spendWrite();
         disk.setCell(last, NEXT, sector);
-        if (last != leader) {
-            disk.spendWrite();
-        }
-        disk.setByte(leader, LEADER_LAST, sector);
+        writeHint(leader, last, sector);
     }
 
     private void dropPages(int leader, int last, int n, int pages) {
@@ -362,11 +358,19 @@ public final class LabelledVolume {
         freeGathered(count);
         disk.spendWrite();
         disk.endFileAt(newLast, n);
-        if (newLast != leader) {
-            disk.spendWrite();
-            disk.setByte(leader, LEADER_LAST, newLast);
-        }
+        writeHint(leader, newLast, newLast);
         freeMap.update();
+    }
+
+    /**
+     * The leader gets its hint in the writing of the sector just written, if it is that one. Sectors are
+     * compared, as a label that says page 0 may be that of a ghost.
+     */
+    private void writeHint(int leader, int justWritten, int last) {
+        if (justWritten != leader) {
+            disk.spendWrite();
+        }
+        disk.setByte(leader, LEADER_LAST, last);
     }
 
     /** Gathers the pages from the last one on down to a lowest one: how many these are. */
@@ -541,12 +545,11 @@ public final class LabelledVolume {
             setCell(sector, BEFORE, last);
         }
 
-        /** A page becomes the last one of a file that has n bytes then. */
+        /** A page becomes the last one of a file that has n bytes then; page 0 has none of them. */
         void endFileAt(int sector, int n) {
             setCell(sector, NEXT, NONE);
             int page = cell(sector, PAGE);
             if (page == 0) {
-                setByte(sector, LEADER_LAST, sector);
                 return;
             }
             int used = n - BYTES * (page - 1);

@@ -14,6 +14,7 @@ public final class RemoveTest {
         broken();
         linksAreHints();
         leaderIsNotLookedForAgain();
+        oneOfTwoLeaders();
         withoutAMap();
         nothingIsRemembered();
         c.end();
@@ -168,6 +169,21 @@ public final class RemoveTest {
         c.is(2, v.remove(1, 1), "remove with the leader elsewhere");
         c.misses(v, 0, "as the leader was found by the entry");
         c.is(0, v.label(30, 0), "the leader is free");
+    }
+
+    /** ".. then its leader become free": of two sectors that say page 0 the one that was found by the entry. */
+    private static void oneOfTwoLeaders() {
+        LabelledVolume v = Volumes.withFile(8);
+        v.ghost(3, 30);
+        v.spoil(4, 3, 30);
+        int before = v.state(1);
+        c.is(2, v.remove(1, 1), "remove with two leaders");
+        c.written(v, before + 4, "entry, page, leader, map");
+        c.is(0, v.label(30, 0), "the leader is free");
+        c.label(v, 3, 3, 0, 8, 5, -1);
+        c.data(v, 3, 0, 1, 0, 5);
+        c.misses(v, 0, "by hints that the labels agree with");
+        c.is(4, v.create(1, 1, false), "serial while page 0 of file 3 is left");
     }
 
     private static void withoutAMap() {

@@ -19,6 +19,9 @@ public final class ShortenTest {
         mapOverSeveralCalls();
         leaderThatIsElsewhere();
         leaderThatIsAnotherSector();
+        ghostThatIsAhead();
+        orderWithTwoLeaders();
+        twoLeadersAndAPageLeft();
         c.end();
     }
 
@@ -244,20 +247,80 @@ public final class ShortenTest {
         c.is(30, v.data(30, 3), "hint of the leader to itself");
     }
 
-    /** "then, if that is another sector, the leader with its hint": page 0 is not what is remembered. */
+    /**
+     * "the leader also with its own sector as the hint", "then, if that is another sector, the leader with its
+     * hint": the leader is the sector that was found for it, not each one whose label says page 0.
+     */
     private static void leaderThatIsAnotherSector() {
-        LabelledVolume v = Volumes.withFile(8);
-        v.ghost(3, 30);
-        v.spoil(4, 3, 30);
+        int[] ghosts = {20, 30, 39};
+        for (int ghost : ghosts) {
+            LabelledVolume v = withGhostAsLeader(8, ghost);
+            v.spoil(3, 3, 77);
+            v.spoil(3, 7, 78);
+            int before = v.state(1);
+            v.shorten(3, 0);
+            c.written(v, before + 4, "freed page, page 0, leader, map");
+            c.label(v, 3, 3, 0, 8, -1, -1);
+            c.data(v, 3, 0, 1, 0, 77, 0, 0, 0, 78);
+            c.label(v, ghost, 3, 0, 8, 5, -1);
+            c.data(v, ghost, 0, 1, 0, 3, 0, 0, 0, 0);
+            c.misses(v, 0, "by hints that the labels agree with");
+            c.is(0, v.length(3), "length by the leader's hint of page 0");
+        }
+    }
+
+    /** File 3 with its leader in sector 3, and a ghost of it that is remembered as the leader. */
+    private static LabelledVolume withGhostAsLeader(int bytes, int ghost) {
+        LabelledVolume v = Volumes.withFile(bytes);
+        v.ghost(3, ghost);
+        v.spoil(4, 3, ghost);
         c.is(3, v.open(1, 1), "open, that remembers the ghost");
-        v.spoil(3, 3, 77);
-        int before = v.state(1);
+        return v;
+    }
+
+    /** The same sentences: the ghost is the page ahead of page 1, the leader the sector below it. */
+    private static void ghostThatIsAhead() {
+        LabelledVolume v = Volumes.withFile(0);
+        v.ghost(3, 30);
+        v.spoil(3, 3, 30);
+        v.write(3, 0, 1);
+        c.label(v, 5, 3, 1, 1, -1, 30);
         v.shorten(3, 0);
-        c.written(v, before + 4, "freed page, page 0, leader, map");
+        c.label(v, 30, 3, 0, 8, -1, -1);
+        c.data(v, 30, 0, 1, 0, 3, 0, 0, 0, 0);
         c.label(v, 3, 3, 0, 8, -1, -1);
-        c.is(3, v.data(3, 3), "hint of page 0 to itself");
-        c.label(v, 30, 3, 0, 8, 5, -1);
-        c.is(3, v.data(30, 3), "hint of the leader");
+        c.data(v, 3, 0, 1, 0, 30, 0, 0, 0, 0);
         c.misses(v, 0, "by hints that the labels agree with");
+    }
+
+    /** The same sentences, writing by writing: the page, page 0 with NEXT alone, the leader's hint, the map. */
+    private static void orderWithTwoLeaders() {
+        for (int charge = 0; charge <= 4; charge++) {
+            LabelledVolume v = withGhostAsLeader(8, 20);
+            v.charge(charge);
+            if (charge < 4) {
+                c.fails(UnsupportedOperationException.class, () -> v.shorten(3, 0), "shorten, charge " + charge);
+            } else {
+                v.shorten(3, 0);
+            }
+            c.is(charge > 0 ? 0 : 3, v.label(5, 0), "serial of page 1, charge " + charge);
+            c.is(charge > 1 ? -1 : 5, v.label(3, 3), "NEXT of page 0, charge " + charge);
+            c.is(5, v.data(3, 3), "hint in page 0, charge " + charge);
+            c.is(5, v.label(20, 3), "NEXT of the leader, charge " + charge);
+            c.is(charge > 2 ? 3 : 5, v.data(20, 3), "hint of the leader, charge " + charge);
+            c.is(charge > 3 ? 224 : 192, v.data(2, 0), "map, charge " + charge);
+        }
+    }
+
+    /** The same sentences: where a page from 1 on is last then, page 0 that is not the leader is not written. */
+    private static void twoLeadersAndAPageLeft() {
+        LabelledVolume v = withGhostAsLeader(16, 20);
+        v.spoil(3, 3, 77);
+        v.shorten(3, 8);
+        c.label(v, 3, 3, 0, 8, 5, -1);
+        c.is(77, v.data(3, 3), "hint in page 0, which is not the leader");
+        c.label(v, 20, 3, 0, 8, 5, -1);
+        c.is(5, v.data(20, 3), "hint of the leader");
+        c.label(v, 5, 3, 1, 8, -1, 3);
     }
 }
